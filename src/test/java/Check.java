@@ -1,0 +1,39 @@
+import java.util.Objects;
+
+/** Counts and prints what is not as due. */
+final class Check {
+    private static int checks = 0;
+    private static int wrong = 0;
+
+    private Check() {
+    }
+
+    /** A call whose answer is looked at. */
+    interface Call {
+        Object answer();
+    }
+
+    static void equal(String what, Object due, Object got) {
+        checks++;
+        if (!Objects.equals(due, got)) {
+            wrong++;
+            System.out.println(what + " answered " + got + ", due is " + due);
+        }
+    }
+
+    /** The call throws exactly this exception, no class below it, and nothing differs afterwards. */
+    static void refused(FrogParliament parliament, String what, Class<?> due, Call call) {
+        String before = Observed.state(parliament) + Observed.rest(parliament);
+        equal(what, due.getSimpleName(), Observed.answer(call));
+        equal("the state after " + what, before,
+                Observed.state(parliament) + Observed.rest(parliament));
+    }
+
+    /** Prints the outcome, and ends the program with exit code 1 if something was wrong. */
+    static void end(String name) {
+        System.out.println(name + ": " + checks + " checks, " + wrong + " wrong");
+        if (wrong != 0 || checks == 0) {
+            System.exit(1);
+        }
+    }
+}
