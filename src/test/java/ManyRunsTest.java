@@ -6,7 +6,7 @@ import java.util.Random;
 
 /** Runs of 512 calls, the same at every start, each call compared with what Model answers. */
 public final class ManyRunsTest {
-    private static final int RUNS = 1500;
+    private static final int RUNS = 3000;
     private static final int CALLS = 512;
     private static final int[] FAR = {-1, 16, 127, 65535, Integer.MIN_VALUE, Integer.MAX_VALUE};
 
@@ -34,21 +34,62 @@ public final class ManyRunsTest {
         parliament = new FrogParliament();
         model = new Model();
         calls = 0;
-        int undoOdds = 5 + random.nextInt(60);
+        if (run % 8 != 0) {
+            prepare(run);
+        }
         while (calls < CALLS) {
-            int kind = random.nextInt(100);
-            if (kind < 45) {
+            int kind = random.nextInt(1000);
+            if (kind < 700) {
                 change(run);
-            } else if (kind < 55) {
+            } else if (kind < 705) {
                 runText(run);
-            } else if (kind < 97) {
+            } else if (kind < 960) {
                 query(run);
-            } else if (random.nextInt(undoOdds) < 5) {
-                compare(run, random.nextInt(6) == 0 ? "restore" : "undo");
+            } else if (kind < 975) {
+                drive(run, motion());
+            } else if (kind < 990) {
+                compare(run, "undo");
             } else {
-                compare(run, "save");
+                compare(run, kind < 995 ? "save" : "restore");
             }
         }
+    }
+
+    /** Without some frogs on pads and motions most runs would not come to croaks. */
+    private void prepare(int run) throws Exception {
+        int frogs = 2 + random.nextInt(11);
+        int pads = 2 + random.nextInt(5);
+        for (int pad = 0; pad < pads; pad++) {
+            compare(run, "addPad", 1 + random.nextInt(4));
+        }
+        for (int frog = 0; frog < frogs; frog++) {
+            compare(run, "addFrog", random.nextInt(4), 1 + random.nextInt(9));
+            compare(run, "hop", frog, random.nextInt(pads));
+        }
+        for (int motion = random.nextInt(4); motion >= 0; motion--) {
+            compare(run, "addMotion", random.nextInt(3) > 0 ? 15 : 1 + random.nextInt(15));
+        }
+    }
+
+    /** Takes a motion some way to its end: closure, calls, croaks, decision. */
+    private void drive(int run, int motion) throws Exception {
+        int steps = 1 + random.nextInt(4);
+        for (int frog = 0; frog < 12; frog++) {
+            compare(run, "supportClosure", motion, frog);
+        }
+        for (int turn = random.nextInt(8); steps > 1 && turn >= 0; turn--) {
+            compare(run, "nextFrog", motion);
+            compare(run, "callNext", motion);
+        }
+        for (int croak = random.nextInt(12); steps > 2 && croak >= 0; croak--) {
+            compare(run, "croak", motion, random.nextInt(12), from1(9), random.nextInt(2));
+            compare(run, "strongestFrog", motion);
+            compare(run, "shareFor", motion);
+        }
+        if (steps > 3) {
+            compare(run, "decide", motion);
+        }
+        compare(run, "describeList", motion);
     }
 
     private int number(int most) {
@@ -60,28 +101,31 @@ public final class ManyRunsTest {
     }
 
     private int frog() {
-        return number(random.nextInt(4) == 0 ? 12 : 5);
+        return number(random.nextInt(3) == 0 ? 12 : 6);
     }
 
     private int motion() {
-        return number(random.nextInt(10) == 0 ? 6 : 1);
+        return number(random.nextInt(5) == 0 ? 6 : 2);
     }
 
     private void change(int run) throws Exception {
-        switch (random.nextInt(17)) {
+        switch (random.nextInt(20)) {
             case 0: compare(run, "addFrog", number(3), from1(9)); break;
             case 1: compare(run, "addPad", from1(4)); break;
-            case 2: case 3: case 4: case 5: compare(run, "hop", frog(), number(3)); break;
-            case 6: compare(run, "dive", frog()); break;
-            case 7: compare(run, "addMotion", random.nextInt(2) == 0 ? 15 : from1(15)); break;
-            case 8: case 9: compare(run, "signUp", motion(), frog()); break;
+            case 2: case 3: case 4: compare(run, "hop", frog(), number(5)); break;
+            case 5: compare(run, "dive", frog()); break;
+            case 6: compare(run, "addMotion", random.nextInt(2) == 0 ? 15 : from1(15)); break;
+            case 7: case 8: case 9: compare(run, "signUp", motion(), frog()); break;
             case 10: compare(run, "strike", motion(), frog()); break;
-            case 11: case 12: compare(run, "callNext", motion()); break;
-            case 13: compare(run, "supportClosure", motion(), frog()); break;
-            case 14: case 15:
+            case 11: case 12: case 13: case 14: compare(run, "callNext", motion()); break;
+            case 15: compare(run, "supportClosure", motion(), frog()); break;
+            case 16: case 17: case 18:
                 compare(run, "croak", motion(), frog(), from1(9), random.nextInt(2));
                 break;
-            default: compare(run, "decide", motion()); break;
+            default:
+                if (random.nextInt(4) == 0) {
+                    compare(run, "decide", motion());
+                }
         }
     }
 
