@@ -610,7 +610,6 @@ public final class FrogParliament {
             ponds[frog] = pond;
             weights[frog] = weight;
             seats[frog] = NONE;
-            speechesBy[frog] = 0;
             frogs++;
             return frog;
         }
@@ -699,7 +698,9 @@ public final class FrogParliament {
 
         private int propose(int mask) {
             int motion = motionsMade;
-            motions[motion].begin(mask);
+            // all the rest is as in a new object: undo and restore bring back the motions that
+            // were not made yet, too
+            motions[motion].mask = mask;
             motionsMade++;
             return motion;
         }
@@ -981,18 +982,6 @@ public final class FrogParliament {
         private boolean decided;
         private boolean adopted;
         private int spoken;
-
-        private void begin(int newMask) {
-            mask = newMask;
-            listed = 0;
-            closed = false;
-            supporters = 0;
-            croaks = 0;
-            inFavour = 0;
-            decided = false;
-            adopted = false;
-            spoken = 0;
-        }
 
         private void copyFrom(Motion other) {
             mask = other.mask;

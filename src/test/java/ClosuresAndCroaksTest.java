@@ -148,6 +148,7 @@ public final class ClosuresAndCroaksTest {
             Check.equal("croak of all", 81 * (frog + 1), all.croak(0, frog, 9, true));
         }
         Check.equal("croaksForByPonds of all", 972, all.croaksForByPonds(0));
+        Check.equal("strongestFrog of all", 0, all.strongestFrog(0));
     }
 
     private static void croakOrderOfExceptions() {
@@ -222,6 +223,9 @@ public final class ClosuresAndCroaksTest {
         Check.equal("strongestFrog of three as strong", 2, p.strongestFrog(0));
         p.croak(0, 1, 7, false);
         Check.equal("strongestFrog", 1, p.strongestFrog(0));
+        p.undo();
+        Check.equal("strongestFrog when the strongest is undone", 2, p.strongestFrog(0));
+        p.croak(0, 1, 7, false);
         p.decide(0);
         Check.equal("strongestFrog of a decided motion", 1, p.strongestFrog(0));
     }

@@ -9,6 +9,7 @@ public final class CommandsTest {
         bufferOfSixty();
         everyCommand();
         numbers();
+        otherMotions();
         errorPositions();
         textsOfSixty();
         failedCommands();
@@ -121,6 +122,23 @@ public final class CommandsTest {
         }
         runs(p, "croak 0 10+9", 1);
         Check.equal("croaksFor", 81, p.croaksFor(0));
+    }
+
+    private static void otherMotions() {
+        FrogParliament p = new FrogParliament();
+        runs(p, "frog 01;frog 02;pad 2;hop 0 0;hop 1 0;motion 1;motion 1", 7);
+        runs(p, "list 1 0;list 1 1;strike 1 0;call 1;end 1 1;croak 1 1+3", 6);
+        Check.equal("speechesOn(0)", 0, p.speechesOn(0));
+        Check.equal("speechesOn(1)", 1, p.speechesOn(1));
+        Check.equal("croaksFor(1)", 6, p.croaksFor(1));
+        fails(p, "croak 1 0-9;decide 0", 1);
+        runs(p, "croak 1 0-7;decide 1", 2);
+        Check.equal("isAdopted(1)", false, p.isAdopted(1));
+        Check.equal("isDecided(1)", true, p.isDecided(1));
+        Check.equal("isDecided(0)", false, p.isDecided(0));
+        fails(p, "decide 2", 0);
+        runs(p, "end 0 1;decide 0", 2);
+        Check.equal("isDecided(0)", true, p.isDecided(0));
     }
 
     private static void errorPositions() {

@@ -107,6 +107,9 @@ public final class MotionsAndListsTest {
             Check.equal("signUp of all", frog + 1, full.signUp(0, 11 - frog));
         }
         Check.equal("the full list", "11,10,9,8,7,6,5,4,3,2,1,0", list(full, 0));
+        for (int frog = 0; frog < 12; frog++) {
+            Check.equal("frogsBefore on the full list", 11 - frog, full.frogsBefore(0, frog));
+        }
     }
 
     private static void strike() {
@@ -173,6 +176,10 @@ public final class MotionsAndListsTest {
             Check.refused(p, "frogsBefore of a called frog", ELEMENT,
                     () -> p.frogsBefore(0, frog));
         }
+        p.signUp(0, 0);
+        p.signUp(0, 4);
+        p.strike(0, 4);
+        Check.equal("frogsBefore when another was struck", 0, p.frogsBefore(0, 0));
     }
 
     private static void speechesAcrossMotions() {

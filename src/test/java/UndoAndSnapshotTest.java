@@ -16,6 +16,7 @@ public final class UndoAndSnapshotTest {
         saveAndRestore();
         undoAndSnapshot();
         numbersAreUsedAgain();
+        restoreOverOthers();
         Check.end("UndoAndSnapshotTest");
     }
 
@@ -257,5 +258,37 @@ public final class UndoAndSnapshotTest {
         Check.equal("speechesOn of the new motion", 0, p.speechesOn(0));
         Check.equal("listLength of the new motion", 0, p.listLength(0));
         Check.equal("isConsistent", true, p.isConsistent());
+    }
+
+    /** After undo other frogs, pads and motions bear the numbers of those in the snapshot. */
+    private static void restoreOverOthers() {
+        FrogParliament p = new FrogParliament();
+        p.addFrog(0, 5);
+        p.addPad(2);
+        p.addMotion(1);
+        p.save();
+        String saved = Observed.state(p);
+        for (int change = 0; change < 3; change++) {
+            p.undo();
+        }
+        p.addFrog(3, 2);
+        p.addPad(1);
+        p.addMotion(14);
+        p.restore();
+        Check.equal("the state after restore over others", saved, Observed.state(p));
+        p.addFrog(0, 1);
+        p.hop(0, 0);
+        Check.equal("hop on a restored pad", 2, p.hop(1, 0));
+        p.supportClosure(0, 0);
+        p.croak(0, 0, 3, true);
+        p.croak(0, 1, 9, false);
+        p.save();
+        saved = Observed.state(p);
+        p.undo();
+        p.undo();
+        p.croak(0, 1, 8, true);
+        p.croak(0, 0, 2, false);
+        p.restore();
+        Check.equal("the state after restore over other croaks", saved, Observed.state(p));
     }
 }
