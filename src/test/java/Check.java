@@ -4,6 +4,7 @@ import java.util.Objects;
 final class Check {
     private static int checks = 0;
     private static int wrong = 0;
+    private static String place = "";
 
     private Check() {
     }
@@ -13,11 +14,20 @@ final class Check {
         Object answer();
     }
 
+    /** Names what is looked at from now on, ahead of all that is printed. */
+    static void lookAt(String what) {
+        place = what;
+    }
+
+    static int count() {
+        return checks;
+    }
+
     static void equal(String what, Object due, Object got) {
         checks++;
         if (!Objects.equals(due, got)) {
             wrong++;
-            System.out.println(what + " answered " + got + ", due is " + due);
+            System.out.println(place + what + " answered " + got + ", due is " + due);
         }
     }
 
@@ -27,6 +37,15 @@ final class Check {
         equal(what, due.getSimpleName(), Observed.answer(call));
         equal("the state after " + what, before,
                 Observed.state(parliament) + Observed.rest(parliament));
+    }
+
+    /** The call throws, but not this exception, or does not throw at all. */
+    static void notRefused(String what, Class<?> ruledOut, Call call) {
+        notRefusedAs(what, ruledOut.getSimpleName(), Observed.answer(call));
+    }
+
+    static void notRefusedAs(String what, String ruledOut, Object answer) {
+        equal(what + " throws " + ruledOut, false, ruledOut.equals(answer));
     }
 
     /** Prints the outcome, and ends the program with exit code 1 if something was wrong. */

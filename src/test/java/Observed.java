@@ -61,6 +61,48 @@ final class Observed {
                 + " failed " + answer(() -> p.failedCommand()) + " line " + line(p);
     }
 
+    /**
+     * All that calls can still tell of it, but for the rest: what undo and restore bring back, and
+     * how it takes calls of every kind. The parliament is of no use afterwards.
+     */
+    static String whole(FrogParliament p) {
+        StringBuilder all = new StringBuilder(state(p));
+        Object left = answer(() -> p.undo());
+        while (left instanceof Integer) {
+            all.append("\nundo ").append(left).append(' ').append(state(p));
+            left = answer(() -> p.undo());
+        }
+        all.append("\nrestore ").append(answer(() -> p.restore())).append(' ').append(state(p));
+        return all.append(probe(p)).toString();
+    }
+
+    /** The answers to calls of every kind, which show what no query tells, and the state behind. */
+    static String probe(FrogParliament p) {
+        StringBuilder all = new StringBuilder("\nprobe");
+        for (int f = 0; f < p.frogCount(); f++) {
+            for (int number = 0; number < 6; number++) {
+                int frog = f;
+                int n = number;
+                all.append(' ').append(answer(() -> p.hop(frog, n)));
+                all.append(' ').append(answer(() -> p.signUp(n, frog)));
+                all.append(' ').append(answer(() -> p.supportClosure(n, frog)));
+            }
+        }
+        for (int f = 0; f < p.frogCount(); f++) {
+            for (int motion = 0; motion < 6; motion++) {
+                int frog = f;
+                int m = motion;
+                all.append(' ').append(answer(() -> p.strike(m, frog)));
+                all.append(' ').append(answer(() -> p.croak(m, frog, 2, frog % 3 > 0)));
+                all.append(' ').append(answer(() -> p.callNext(m)));
+            }
+        }
+        all.append(' ').append(answer(() -> p.addFrog(0, 1)));
+        all.append(' ').append(answer(() -> p.addPad(1)));
+        all.append(' ').append(answer(() -> p.addMotion(1)));
+        return all.append(state(p)).toString();
+    }
+
     static String line(FrogParliament p) {
         StringBuilder line = new StringBuilder();
         while (true) {
