@@ -1,5 +1,6 @@
 import java.util.ArrayList;
 import java.util.List;
+import java.util.function.Supplier;
 
 /** The sentences on changes, undo and the snapshot: terms, and promises 52 to 54. */
 final class ChangeSentences {
@@ -118,10 +119,7 @@ final class ChangeSentences {
 
     private static FrogParliament after(int steps) {
         FrogParliament p = new FrogParliament();
-        for (Parliaments.Step step : session().subList(0, steps)) {
-            Object answer = Observed.answer(() -> step.answer(p));
-            Check.notRefusedAs("a step of the session", "true", answer instanceof String);
-        }
+        make(p, session().subList(0, steps));
         return p;
     }
 
@@ -252,6 +250,8 @@ final class ChangeSentences {
             undone.undo();
             checkRest("after undo", undone);
         }
+        Check.equal("append after undo", 8, undone.append('1'));
+        Check.equal("run after undo", 1, Observed.answer(() -> undone.run()));
         FrogParliament restored = withRest();
         restored.restore();
         checkRest("after restore", restored);
@@ -281,7 +281,6 @@ final class ChangeSentences {
         Check.equal("the line " + what, "2,1", Observed.line(p));
         Check.equal("errorPosition " + what, 4, Observed.answer(() -> p.errorPosition()));
         Check.equal("failedCommand " + what, 1, Observed.answer(() -> p.failedCommand()));
-        Observed.answer(() -> p.append((char) 127));
     }
 
     private static void everythingElse() {
@@ -307,6 +306,68 @@ final class ChangeSentences {
             saved.restore();
             Check.equal("the whole after restore at " + step, Observed.probe(after(step)),
                     Observed.probe(saved));
+        }
+        restoredOverOthers();
+    }
+
+    /** The last of each kind is in the snapshot, and another bears its number when it is restored. */
+    private static void restoredOverOthers() {
+        Supplier<FrogParliament> few = () -> Parliaments.with(11, 5, 5);
+        restoredOver(few, List.of(p -> p.addFrog(3, 9)), List.of(p -> p.addFrog(1, 2)));
+        restoredOver(few, List.of(p -> p.addPad(1)), List.of(p -> p.addPad(3)));
+        restoredOver(few, List.of(p -> p.addMotion(5)), List.of(p -> p.addMotion(10)));
+        Supplier<FrogParliament> seated =
+                () -> Parliaments.seated(1, 1, 1, 1, 1, 1, 1, 1, 1, 1, 1, 1);
+        restoredOver(seated, List.of(p -> p.dive(11), p -> p.dive(10), p -> p.hop(11, 5)),
+                List.of(p -> p.dive(0), p -> p.hop(11, 0)));
+        restoredOver(seated, List.of(p -> p.signUp(0, 11), p -> p.callNext(0)),
+                List.of(p -> p.signUp(0, 10), p -> p.callNext(0)));
+        restoredOver(ChangeSentences::withTenListed,
+                List.of(p -> p.signUp(0, 10), p -> p.signUp(0, 11)),
+                List.of(p -> p.signUp(0, 11), p -> p.signUp(0, 10)));
+        restoredOver(ChangeSentences::withTenCroaks,
+                List.of(p -> p.croak(0, 10, 9, true), p -> p.croak(0, 11, 8, false)),
+                List.of(p -> p.croak(0, 11, 5, true), p -> p.croak(0, 10, 4, false)));
+    }
+
+    private static FrogParliament withTenListed() {
+        FrogParliament p = Parliaments.seated(1, 1, 1, 1, 1, 1, 1, 1, 1, 1, 1, 1);
+        for (int frog = 0; frog < 10; frog++) {
+            p.signUp(0, frog);
+        }
+        return p;
+    }
+
+    private static FrogParliament withTenCroaks() {
+        FrogParliament p = Parliaments.closed(9, 9, 9, 9, 9, 9, 9, 9, 9, 9, 9, 9);
+        for (int frog = 0; frog < 10; frog++) {
+            p.croak(0, frog, 1, frog % 2 == 0);
+        }
+        return p;
+    }
+
+    /** These changes are saved and undone, the others made, and the snapshot restored. */
+    private static void restoredOver(Supplier<FrogParliament> start,
+            List<Parliaments.Step> changes, List<Parliaments.Step> others) {
+        FrogParliament due = start.get();
+        make(due, changes);
+        FrogParliament p = start.get();
+        make(p, changes);
+        p.save();
+        for (int change = 0; change < changes.size(); change++) {
+            p.undo();
+        }
+        Check.equal("the state undone", Observed.state(start.get()), Observed.state(p));
+        make(p, others);
+        p.restore();
+        Check.equal("the state restored over others", Observed.state(due), Observed.state(p));
+        Check.equal("the answers restored over others", Observed.probe(due), Observed.probe(p));
+    }
+
+    private static void make(FrogParliament p, List<Parliaments.Step> changes) {
+        for (Parliaments.Step change : changes) {
+            Object answer = Observed.answer(() -> change.answer(p));
+            Check.equal("a change is refused", false, answer instanceof String);
         }
     }
 

@@ -188,6 +188,7 @@ final class CommandSentences {
             isNoText(p, text + ";;" + text, text.length() + 1);
             isNoText(p, text + " ", text.length());
             isNoText(p, " " + text, 0);
+            onlyThisForm(p, text);
         }
         for (int commands = 1; commands <= 10; commands++) {
             StringBuilder text = new StringBuilder("pad 0");
@@ -195,6 +196,18 @@ final class CommandSentences {
                 text.append(";pad 0");
             }
             Check.equal("run of " + text, FAILS, Parliaments.run(p, text.toString()));
+        }
+    }
+
+    /** One character less or one digit more is a command text only if the form has it, too. */
+    private static void onlyThisForm(FrogParliament p, String text) {
+        for (int at = 0; at <= text.length(); at++) {
+            String more = text.substring(0, at) + "1" + text.substring(at);
+            Check.equal("'" + more + "' is no command text", !isCommandText(more),
+                    NO_TEXT.equals(Parliaments.run(p, more)));
+            String less = text.substring(0, at) + text.substring(Math.min(at + 1, text.length()));
+            Check.equal("'" + less + "' is no command text", !isCommandText(less),
+                    NO_TEXT.equals(Parliaments.run(p, less)));
         }
     }
 
@@ -457,6 +470,22 @@ final class CommandSentences {
         runs(p, "motion 7;list 0 2;list 0 0;call 0;list 0 1", 5);
         Check.equal("the list", "0,1~", Parliaments.list(p, 0));
         fails(p, "croak 0 0+1;end 0 2;end 0 0", 0);
+        shorterTexts();
+    }
+
+    /** A text behind a longer one: nothing of the longer one is carried out. */
+    private static void shorterTexts() {
+        FrogParliament p = new FrogParliament();
+        runs(p, "pad 1;pad 2;pad 3", 3);
+        runs(p, "frog 01", 1);
+        Check.equal("padCount after a shorter text", 3, p.padCount());
+        isNoText(p, "frog 01;frog 02;frog 03;frog", 28);
+        runs(p, "pad 4", 1);
+        Check.equal("frogCount behind no command text", 1, p.frogCount());
+        fails(p, "frog 04;frog 05;frog 06;frog 40", 3);
+        runs(p, "pad 1;pad 2", 2);
+        Check.equal("frogCount behind a failure", 1, p.frogCount());
+        Check.equal("padCount of all", 6, p.padCount());
     }
 
     private static void allOrNone() {

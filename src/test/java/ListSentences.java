@@ -779,6 +779,34 @@ final class ListSentences {
                 Parliaments.list(p, 0));
         p.decide(1);
         Check.equal("the list of a decided motion", "|", Parliaments.list(p, 1));
+        for (int seed = 1; seed <= 60; seed++) {
+            listInOtherOrder(seed);
+        }
+    }
+
+    /** Frogs with some speeches, signed up in some order: the line tells the order of the calls. */
+    private static void listInOtherOrder(int seed) {
+        FrogParliament p = twelve();
+        p.addMotion(15);
+        for (int frog = 0; frog < 12; frog++) {
+            for (int speech = seed * (7 * frog + 3) % 13 % 5; speech > 0; speech--) {
+                Parliaments.speak(p, 1, frog);
+            }
+        }
+        int step = new int[] {1, 5, 7, 11}[seed % 4];
+        StringBuilder due = new StringBuilder();
+        for (int speeches = 0; speeches < 5; speeches++) {
+            for (int turn = 0; turn < 12; turn++) {
+                int frog = (seed + step * turn) % 12;
+                if (p.speeches(frog) == speeches) {
+                    due.append(due.length() > 0 ? "," : "").append(frog);
+                }
+            }
+        }
+        for (int turn = 0; turn < 12; turn++) {
+            p.signUp(0, (seed + step * turn) % 12);
+        }
+        Check.equal("the list " + seed, due.toString(), Parliaments.list(p, 0));
     }
 
     private static void frogsInTheWater() {
