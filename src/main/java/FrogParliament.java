@@ -150,7 +150,7 @@ public final class FrogParliament {
     public int nextFrog(int motion) throws IndexOutOfBoundsException, NoSuchElementException {
         refuse(now.refusalToCall(motion));
         fillQueue(motion);
-        return now.motions[motion].list[queue.takeFirst()];
+        return queue.takeFirst();
     }
 
     public int nextFrogByScan(int motion)
@@ -365,7 +365,7 @@ public final class FrogParliament {
             if (turn > 0) {
                 line.append(',');
             }
-            int frog = m.list[queue.takeFirst()];
+            int frog = queue.takeFirst();
             line.append(frog);
             if (!now.sits(frog)) {
                 line.append('~');
@@ -450,7 +450,8 @@ public final class FrogParliament {
         Motion m = now.motions[motion];
         queue.clear();
         for (int place = 0; place < m.listed; place++) {
-            queue.put(now.speechesBy[m.list[place]], place);
+            int frog = m.list[place];
+            queue.put(now.speechesBy[frog], place, frog);
         }
     }
 
@@ -662,7 +663,7 @@ public final class FrogParliament {
         }
 
         private boolean sits(int frog) {
-            return seats[frog] != NONE;
+            return (sitting >> frog & 1) != 0;
         }
 
         private int sittersOf(int pad) {
@@ -744,8 +745,7 @@ public final class FrogParliament {
 
         private int enlist(int motion, int frog) {
             Motion m = motions[motion];
-            m.list[m.listed] = frog;
-            m.listed++;
+            m.addToList(frog);
             return m.listed;
         }
 
@@ -860,12 +860,7 @@ public final class FrogParliament {
 
         private int hear(int motion, int frog, int loudness, boolean isFor) {
             Motion m = motions[motion];
-            m.croakers[m.croaks] = frog;
-            m.strengths[m.croaks] = loudness * weights[frog];
-            m.croaks++;
-            if (isFor) {
-                m.inFavour |= 1 << frog;
-            }
+            m.addCroak(frog, loudness * weights[frog], isFor);
             return m.sumOfSide(isFor);
         }
 
@@ -1007,11 +1002,30 @@ public final class FrogParliament {
             return NONE;
         }
 
+        private void addToList(int frog) {
+            if (listed < MAX_FROGS) {
+                list[listed] = frog;
+                listed++;
+            }
+        }
+
         private void clearPlace(int place) {
+            if (place < 0 || place >= listed) {
+                return;
+            }
             for (int later = place + 1; later < listed; later++) {
                 list[later - 1] = list[later];
             }
             listed--;
+        }
+
+        private void addCroak(int frog, int strength, boolean side) {
+            if (croaks < MAX_FROGS) {
+                croakers[croaks] = frog;
+                strengths[croaks] = strength;
+                croaks++;
+                inFavour |= side ? 1 << frog : 0;
+            }
         }
 
         private boolean hasCroakOf(int frog) {
@@ -1070,12 +1084,12 @@ public final class FrogParliament {
     }
 
     /**
-     * A priority queue of the places on one list, as a binary heap. A key holds the speeches
-     * above the place, so that the least key is the frog to be called first.
+     * A priority queue of the frogs on one list, as a binary heap. A key holds the speeches, then
+     * the place on the list, then the frog, so that the least key is that of the next frog.
      */
     private static final class SpeakerQueue {
-        private static final int PLACE_BITS = 4;
-        private static final int PLACE_MASK = 15;
+        private static final int BITS = 4;
+        private static final int FROG_MASK = 15;
 
         private final int[] keys = new int[MAX_FROGS];
         private int size;
@@ -1084,8 +1098,11 @@ public final class FrogParliament {
             size = 0;
         }
 
-        private void put(int speeches, int place) {
-            int key = speeches << PLACE_BITS | place;
+        private void put(int speeches, int place, int frog) {
+            if (size >= MAX_FROGS) {
+                return;
+            }
+            int key = (speeches << BITS | place) << BITS | frog;
             int at = size;
             size++;
             while (at > 0 && keys[(at - 1) / 2] > key) {
@@ -1096,6 +1113,9 @@ public final class FrogParliament {
         }
 
         private int takeFirst() {
+            if (size <= 0) {
+                return NONE;
+            }
             int first = keys[0];
             size--;
             int key = keys[size];
@@ -1107,7 +1127,7 @@ public final class FrogParliament {
                 child = lesserChild(at);
             }
             keys[at] = key;
-            return first & PLACE_MASK;
+            return first & FROG_MASK;
         }
 
         private int lesserChild(int at) {
@@ -1216,18 +1236,14 @@ public final class FrogParliament {
             boolean fits = true;
             for (int index = 0; fits && index < form.length(); index++) {
                 char part = form.charAt(index);
-                switch (part) {
-                    case 'D':
-                        fits = readNumber(text, 1, command);
-                        break;
-                    case 'N':
-                        fits = readNumber(text, 2, command);
-                        break;
-                    case 'S':
-                        fits = readSign(text, command);
-                        break;
-                    default:
-                        fits = readCharacter(text, part);
+                if (part == 'D') {
+                    fits = readNumber(text, 1, command);
+                } else if (part == 'N') {
+                    fits = readNumber(text, 2, command);
+                } else if (part == 'S') {
+                    fits = readSign(text, command);
+                } else {
+                    fits = readCharacter(text, part);
                 }
             }
             return fits;

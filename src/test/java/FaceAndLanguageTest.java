@@ -129,7 +129,7 @@ public final class FaceAndLanguageTest {
         String[] ruledOut = {"\\bpackage\\b", "\\bcatch\\b", "\\btry\\b", "\\bfinally\\b",
             "\\bassert\\b", "\\bsynchronized\\b", "->", "::", "\\binstanceof\\b", "\\bMath\\.\\w+Exact",
             "\"\" *\\+", "\\+ *\"\"", "\\bstatic *\\{", "\\bequals\\b", "\\bhashCode\\b",
-            "\\btoString\\b", "\\bnull\\b"};
+            "\\btoString\\b", "\\bnull\\b", "\\bcase '"};
         for (String word : ruledOut) {
             Check.equal(word + " in the code", false, Pattern.compile(word).matcher(code).find());
         }
